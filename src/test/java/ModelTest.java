@@ -581,7 +581,7 @@ public final class ModelTest {
 
   private void run() {
     if (random.nextInt(10) > 0) tell(start());
-    while (calls < CALLS - 90) {
+    while (calls < CALLS - 100) {
       int dice = random.nextInt(20);
       if (dice < 6) play();
       else if (dice < 13) ask();

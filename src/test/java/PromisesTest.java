@@ -457,7 +457,7 @@ public final class PromisesTest {
     due("had at the reach", y.seeds(1, 0), 1);
     due("down at once", told("p5,20;t001;b0;").seeds(1, 0), 0);
     SeedsByHand hand = new SeedsByHand();
-    for (int z = -300; z < 300; z++) due("seeds of " + z, y.seeds(40, z), hand.run(z));
+    for (int z = -200; z < 200; z++) due("seeds of " + z, y.seeds(40, z), hand.run(z));
     due("greatest seed", y.seeds(40, Integer.MAX_VALUE), hand.run(Integer.MAX_VALUE));
     due("least seed", y.seeds(40, Integer.MIN_VALUE), hand.run(Integer.MIN_VALUE));
   }
