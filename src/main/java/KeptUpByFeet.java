@@ -435,6 +435,7 @@ public final class KeptUpByFeet {
             if (!letters.readInto(mind)) {
                 return RANGE_FAULT - start;
             }
+            letters.take();
             statements++;
         }
         now.copyFrom(mind);
@@ -525,7 +526,7 @@ public final class KeptUpByFeet {
         }
 
         private int air() {
-            int half = Math.max(1, height / 2);
+            int half = height < 2 ? 1 : height / 2;
             switch (kind) {
                 case LOW: return half;
                 case CALM: return half + 1;
@@ -860,16 +861,9 @@ public final class KeptUpByFeet {
             }
         }
 
-        /** One statement, known to be of its form; whether it is as it must be. */
+        /** One statement, known to be of its form, up to its ";"; whether it is as it must be. */
         private boolean readInto(Lane lane) {
-            int first = take();
-            boolean isRight = readBehind(first, lane);
-            take();
-            return isRight;
-        }
-
-        private boolean readBehind(int first, Lane lane) {
-            switch (first) {
+            switch (take()) {
                 case 'y': return lane.becomeLong(takeNumber());
                 case 'w': return lane.becomeWindy(takeSigned());
                 case 'p': return readPlayer(lane);

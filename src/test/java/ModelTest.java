@@ -590,6 +590,8 @@ public final class ModelTest {
       else look();
     }
     lookAtAll();
+    while (calls < CALLS) look();
+    if (calls != CALLS) { wrong++; System.out.println(name + " has " + calls + " calls"); }
   }
 
   public static void main(String[] args) {
